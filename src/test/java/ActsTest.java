@@ -65,12 +65,15 @@ public final class ActsTest {
         Check.eq("turn(2), trouble()", x.trouble(), 1);
         Check.eq("turn(-1)", x.turn(-1) ? 1 : 0, 0);
         Check.eq("acts", x.about(7), 2);
-        EaveRoofs y = Check.house("house xo/ox/oo/xx");
+        EaveRoofs y = Check.house("house xoo/oxo/xxo/oox");
         y.turn(1);
-        Check.eq("even: row(0)", Check.row(y, 0), 3);
-        Check.eq("even: row(1)", Check.row(y, 1), 0);
-        Check.eq("even: row(2)", Check.row(y, 2), 2);
+        rows("even", y, 4, 3, 2);
         Check.eq("even: row(3)", Check.row(y, 3), 1);
+        EaveRoofs z = Check.house("house xoo/oxo/xxo/oox/xox");
+        z.turn(1);
+        rows("odd", z, 5, 4, 3);
+        Check.eq("odd: row(3)", Check.row(z, 3), 2);
+        Check.eq("odd: row(4)", Check.row(z, 4), 1);
     }
 
     private static void rows(String what, EaveRoofs x, int first, int second, int third) {
