@@ -14,6 +14,13 @@ final class Check {
         }
     }
 
+    static void same(String call, String got, String want) {
+        if (!got.equals(want)) {
+            wrong++;
+            System.out.println(call + " told " + got + ", due is " + want);
+        }
+    }
+
     static void yes(String what, boolean holds) {
         eq(what, holds ? 1 : 0, 1);
     }
@@ -59,6 +66,25 @@ final class Check {
         return number;
     }
 
+    /** A text that is taken by a new object. */
+    static void good(String text, int inside) {
+        EaveRoofs x = new EaveRoofs();
+        taken("\"" + text + "\"", x, tell(x, text), inside);
+        eq("\"" + text + "\": fault()", x.fault(), 0);
+        eq("\"" + text + "\": where()", x.where(), -1);
+        eq("\"" + text + "\": bytes()", x.bytes(), 0);
+    }
+
+    /** A text with a fault, told to a new object. */
+    static void fault(String text, int number, int place) {
+        EaveRoofs x = new EaveRoofs();
+        refused("\"" + text + "\"", x, tell(x, text), 4);
+        eq("\"" + text + "\": fault()", x.fault(), number);
+        eq("\"" + text + "\": where()", x.where(), place);
+        eq("\"" + text + "\": bytes()", x.bytes(), 0);
+        refused("\"" + text + "\": about(0)", x, x.about(0), 1);
+    }
+
     /** A row, or -9 if NoSuchElementException is thrown. */
     static int row(EaveRoofs roofs, int y) {
         try {
@@ -66,6 +92,14 @@ final class Check {
         } catch (NoSuchElementException none) {
             return -9;
         }
+    }
+
+    /** The rows of the frame, all of them and no more. */
+    static void rows(String what, EaveRoofs roofs, int... want) {
+        for (int y = 0; y < want.length; y++) {
+            eq(what + ": row(" + y + ")", row(roofs, y), want[y]);
+        }
+        eq(what + ": row(" + want.length + ")", row(roofs, want.length), -9);
     }
 
     /** A refused call: NONE, then its trouble. */
@@ -78,5 +112,23 @@ final class Check {
     static void taken(String call, EaveRoofs roofs, long got, long want) {
         eq(call, got, want);
         eq(call + ", trouble()", roofs.trouble(), 0);
+    }
+
+    /** The text of a frame all of whose cells are inside. */
+    static String full(int wide, int high) {
+        String line = "x".repeat(wide);
+        return "house " + line + ("/" + line).repeat(high - 1);
+    }
+
+    /** The text of a frame of which every second cell is inside, the first one too. */
+    static String chequered(int wide, int high) {
+        StringBuilder text = new StringBuilder("house ");
+        for (int y = 0; y < high; y++) {
+            text.append(y == 0 ? "" : "/");
+            for (int x = 0; x < wide; x++) {
+                text.append((x + y) % 2 == 0 ? 'x' : 'o');
+            }
+        }
+        return text.toString();
     }
 }

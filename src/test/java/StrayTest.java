@@ -9,25 +9,30 @@ import java.util.Random;
  */
 public final class StrayTest {
     private static final int[] ODD = {Integer.MIN_VALUE, Integer.MAX_VALUE, -1, 0, 1, 2, 9, 10, 14, 56, 57, 400, 9999};
+    // Of few rows and marks, so that telling a house takes few of an object's 512 calls.
     private static final String[] TEXTS = {
-        "house x", "house xx/ox;speed 1,2,3,4;mark 3,3;mark 8,8", "house xxxxxxx/xxxoxxx/xoxxxox/xxxxxxx;mark 1,1",
+        "house x", "house xx/ox;speed 1,2,3,4;mark 3,3", "house xxxxxxx/xxxoxxx/xoxxxox;mark 1,1",
         "house xxoxx/xxxxx/xxoxx", "house o", "house x;house x", "mark", "house xx;speed 9,9,9,9;mark 4,2;mark 0,0",
-        "house xxxxxxxxxxxxxx/xoxoxoxoxoxoxo/xxxxxxxxxxxxxx/ooooooooooooox/xxxxxxxxxxxxxx/xxxxxxxxxxxxxx"};
+        "house xxxxxxxxxxxxxx/xoxoxoxoxoxoxo/xxxxxxxxxxxxxx"};
+    private static final int CALLS = 18;
 
     public static void main(String[] args) {
         Random random = new Random(7);
-        for (int run = 0; run < 400; run++) {
-            one(random);
+        for (int run = 0; run < 1200; run++) {
+            one(random, run % 3 == 0);
         }
         Check.end();
     }
 
-    private static void one(Random random) {
+    private static void one(Random random, boolean acting) {
         EaveRoofs x = new EaveRoofs();
         List<String> past = new ArrayList<>();
-        String now = state(x);
-        for (int call = 0; call < 60; call++) {
+        String now = "";
+        for (int call = 0; call < CALLS; call++) {
             int kind = random.nextInt(35);
+            if (acting) {
+                kind = call == 0 ? 0 : random.nextInt(6) == 0 ? 31 : 27 + random.nextInt(4);
+            }
             String before = now;
             int held = x.bytes();
             int fault = x.fault();
@@ -42,16 +47,15 @@ public final class StrayTest {
             Check.yes("not refusable: trouble() stays, kind " + kind, refusable || kind == 0 || after == trouble);
             Check.yes("tape stays", kind <= 2 || x.bytes() == held);
             Check.yes("fault() stays", kind == 0 || kind == 2 || x.fault() == fault);
-            now = state(x);
+            now = Told.house(x);
             if (kind == 31 && after == 0) {
-                String due = past.remove(past.size() - 1);
-                Check.yes("undone: " + now + " due " + due, now.equals(due));
+                Check.same("undone", now, past.remove(past.size() - 1));
             } else if (kind >= 27 && kind <= 30 && after == 0) {
                 past.add(before);
             } else if ((kind == 0 || kind == 2) && after == 0) {
                 past.clear();
             } else {
-                Check.yes("kind " + kind + " changed the house: " + before + " to " + now, before.equals(now));
+                Check.same("kind " + kind, now, before);
             }
             while (past.size() > 10) {
                 past.remove(0);
@@ -61,46 +65,8 @@ public final class StrayTest {
             }
         }
         if (!now.isEmpty()) {
-            String told = measures(x);
-            Check.yes("as told afresh: " + now, told.equals(measures(Check.house(now))));
+            Check.same("as told afresh: " + now, Told.measures(x), Told.measures(Check.house(now)));
         }
-    }
-
-    /** Rows, speeds, marks. */
-    private static String state(EaveRoofs x) {
-        return Check.row(x, 0) == -9 ? "" : textOf(x);
-    }
-
-    /** The text that tells the house as it stands. */
-    private static String textOf(EaveRoofs x) {
-        StringBuilder told = new StringBuilder("house ");
-        for (int y = 0; Check.row(x, y) != -9; y++) {
-            told.append(y == 0 ? "" : "/");
-            for (int i = 0; i < x.about(0); i++) {
-                told.append((Check.row(x, y) >> i & 1) == 1 ? 'x' : 'o');
-            }
-        }
-        for (int side = 0; side < 4; side++) {
-            told.append(side == 0 ? ";speed " : ",").append(x.speed(side));
-        }
-        for (int i = 0; i < x.about(4); i++) {
-            told.append(";mark ").append(x.mark(i, 0)).append(',').append(x.mark(i, 1));
-        }
-        return told.toString();
-    }
-
-    /** All that can be asked of points, walls, what is left; what an older house left over would show. */
-    private static String measures(EaveRoofs x) {
-        StringBuilder told = new StringBuilder();
-        for (int i = 0; i < 16; i++) {
-            told.append(x.faces(i)).append(' ').append(x.catches(i)).append(' ').append(x.wall(i, i % 4)).append(' ');
-            told.append(x.event(i, i % 5)).append(' ').append(x.piece(i, 30, i / 8, 0)).append(' ');
-            told.append(x.points(i, 20)).append(' ').append(x.pieces(i, 20)).append(' ').append(x.area(i, 20, 0));
-            told.append(' ').append(x.drop(i, 2)).append(' ').append(x.slopes(2, i)).append(' ');
-            told.append(x.height(i, i, 0)).append(' ').append(x.ranked(i)).append('\n');
-        }
-        told.append(x.top(0)).append(' ').append(x.highest(0)).append(' ').append(x.rim(1)).append(' ');
-        return told.append(x.under(0)).append(' ').append(x.would(0, 0, 0)).append(x.higher(0, 1)).toString();
     }
 
     private static int odd(Random random) {
