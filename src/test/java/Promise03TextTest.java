@@ -10,6 +10,8 @@ public final class Promise03TextTest {
         onlyTheFirstBytesCount();
         theTapeIsEmptyThen();
         allThatThereWasIsGone();
+        allThatWasMeasuredIsGone();
+        eachTextMayTellSpeedOnce();
         aFaultyTextLeavesTheHouse();
         blanksPartTokens();
         tokensNeedNoBlanks();
@@ -83,6 +85,23 @@ public final class Promise03TextTest {
         Check.rows("xxx", x, 7);
         Check.refused("a mark that was", x, x.mark(0, 0), 1);
         Check.same("as new", Told.measures(x), Told.measures(Check.house("house xxx")));
+    }
+
+    /** What was measured of a greater house, walls and points and events, is gone with it. */
+    private static void allThatWasMeasuredIsGone() {
+        EaveRoofs x = Check.house(Check.full(14, 10) + ";mark 20,20");
+        Told.measures(x);
+        Check.taken("another text", x, Check.tell(x, "house xo/ox;mark 2,2"), 2);
+        Check.same("as new", Told.measures(x), Told.measures(Check.house("house xo/ox;mark 2,2")));
+    }
+
+    private static void eachTextMayTellSpeedOnce() {
+        EaveRoofs x = Check.house("house x;speed 2,2,2,2");
+        Check.taken("another text", x, Check.tell(x, "house x;speed 3,3,3,3"), 1);
+        Check.eq("speed(0)", x.speed(0), 3);
+        Check.refused("a faulty one", x, Check.tell(x, "house x;speed 4,4,4,4;speed"), 4);
+        Check.taken("and another", x, Check.tell(x, "house x;speed 5,5,5,5"), 1);
+        Check.eq("speed(3)", x.speed(3), 5);
     }
 
     private static void aFaultyTextLeavesTheHouse() {

@@ -10,6 +10,7 @@ public final class Promise04FaultTest {
         itStaysByOtherCalls();
         aByteThatBeginsNoToken();
         aTokenWithWhichNoTextGoesOn();
+        aWordThatBeginsNoLine();
         theEndWithWhichNoTextGoesOn();
         rowsOfOtherLettersOrLengths();
         wholesBeyondTheirBounds();
@@ -126,6 +127,18 @@ public final class Promise04FaultTest {
         Check.fault("house x;mark 1,2,3", 1, 16);
         Check.fault("house x;mark 1,2/x", 1, 16);
         Check.fault("house x;mark 1,2 mark 1,2", 1, 17);
+    }
+
+    /** Words that begin a line, each of their letters changed. */
+    private static void aWordThatBeginsNoLine() {
+        String[][] lines = {{"", "house", " x"}, {"house x;", "speed", " 1,1,1,1"}, {"house x;", "mark", " 1,1"}};
+        for (String[] line : lines) {
+            Check.good(line[0] + line[1] + line[2], 1);
+            for (int i = 0; i < line[1].length(); i++) {
+                String other = line[1].substring(0, i) + "q" + line[1].substring(i + 1);
+                Check.fault(line[0] + other + line[2], 1, line[0].length());
+            }
+        }
     }
 
     /** Its place is how many bytes the text has, blanks behind the last token too. */

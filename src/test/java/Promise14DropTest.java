@@ -10,6 +10,7 @@ public final class Promise14DropTest {
         theFirstByRows();
         onlyCellsThatHaveAWall();
         byTheNextSideIfNoneHasAWall();
+        notToAWallFartherOff();
         behindAnAct();
         noPoint();
         noHouse();
@@ -70,6 +71,17 @@ public final class Promise14DropTest {
         EaveRoofs y = Check.house("house xxxx/xxox/xxox/xxxx");
         Check.taken("slopes north and east", y, y.slopes(6, 10), 3);
         Check.taken("drop(6, 10)", y, y.drop(6, 10), y.wallOf(1, 1, 1));
+    }
+
+    /** In the row, the column of a cell without a wall stand others that have one, but too far off. */
+    private static void notToAWallFartherOff() {
+        EaveRoofs x = Check.house("house xxxxxxx/xoxxoxx/xoxxxxx/xxxxxxx");
+        Check.taken("farther east", x, x.drop(10, 10), x.wallOf(2, 1, 3));
+        EaveRoofs y = Check.house("house xxxxxxx/xxoxxox/xxxxxox/xxxxxxx");
+        Check.taken("farther west", y, y.drop(18, 10), y.wallOf(4, 1, 1));
+        EaveRoofs z = Check.house("house xxxox/xxxxx/xxxxx/xxoox/xxxox/xxxxx");
+        Check.taken("slopes east and south", z, z.slopes(10, 10), 6);
+        Check.taken("farther north, south", z, z.drop(10, 10), z.wallOf(2, 2, 2));
     }
 
     private static void behindAnAct() {

@@ -4,6 +4,7 @@ public final class Promise15CatchesTest {
         eachWallOfACell();
         aWallMayCatchNone();
         allPointsWithAHeightAreCaughtOnce();
+        asDropTells();
         theMostWalls();
         behindAnAct();
         noSuchWall();
@@ -37,6 +38,23 @@ public final class Promise15CatchesTest {
                 caught += x.catches(i);
             }
             Check.eq(text, caught, x.points(0, 1));
+        }
+    }
+
+    private static void asDropTells() {
+        String[] texts = {"house xxx/xox/xxx", "house xxx/xox/xxo;speed 1,3,2,2", "house oxx/xxx/xox;speed 5,1,1,7"};
+        for (String text : texts) {
+            EaveRoofs x = Check.house(text);
+            int[] caught = new int[x.about(3)];
+            for (int py = 0; py <= 12; py++) {
+                for (int px = 0; px <= 12; px++) {
+                    int wall = x.drop(px, py);
+                    if (wall >= 0) {
+                        caught[wall]++;
+                    }
+                }
+            }
+            all(text, x, caught);
         }
     }
 

@@ -8,6 +8,7 @@ public final class Promise16FacesTest {
         toNone();
         toAll();
         allSetsTogetherAreAllPoints();
+        asSlopesTells();
         behindAnAct();
         setBelowAndAbove();
         noHouse();
@@ -40,6 +41,22 @@ public final class Promise16FacesTest {
             all += x.faces(set);
         }
         Check.eq("all", all, 57 * 41);
+    }
+
+    private static void asSlopesTells() {
+        String[] texts = {"house xxx/xox/xxx", "house xxx/xox/xxo;speed 1,3,2,2", "house oxx/xxx/xox;speed 5,1,1,7"};
+        for (String text : texts) {
+            EaveRoofs x = Check.house(text);
+            int[] want = new int[16];
+            for (int py = 0; py <= 12; py++) {
+                for (int px = 0; px <= 12; px++) {
+                    want[x.slopes(px, py)]++;
+                }
+            }
+            for (int set = 0; set < 16; set++) {
+                Check.taken(text + ": faces(" + set + ")", x, x.faces(set), want[set]);
+            }
+        }
     }
 
     private static void behindAnAct() {

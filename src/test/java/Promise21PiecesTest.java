@@ -8,6 +8,7 @@ public final class Promise21PiecesTest {
         aYardDoesNotPart();
         timesAtTheirBounds();
         theMostPieces();
+        theFrameAtItsBounds();
         behindAnAct();
         wrongTimes();
         noHouseIsToldAheadOfWrongTimes();
@@ -61,6 +62,13 @@ public final class Promise21PiecesTest {
         Check.taken("at 0", x, x.pieces(0, 1), 70);
         Check.taken("a bit ahead of the end", x, x.pieces(4999, 9999), 70);
         Check.taken("at the end", x, x.pieces(1, 2), 0);
+    }
+
+    private static void theFrameAtItsBounds() {
+        EaveRoofs x = Check.house("house xoooooooooooox" + "/oooooooooooooo".repeat(8) + "/xoooooooooooox");
+        Check.taken("the four corners", x, x.pieces(0, 1), 4);
+        EaveRoofs y = Check.house("house " + "oooooo/".repeat(8) + "xoxoxo/xxxoxx");
+        Check.taken("round at the south rim", y, y.pieces(0, 1), 2);
     }
 
     private static void behindAnAct() {

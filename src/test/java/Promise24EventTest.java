@@ -12,6 +12,9 @@ public final class Promise24EventTest {
         intoThree();
         severalEndAtOnce();
         timesThatAreNoEvents();
+        bothWaysAtOnceIsOneEvent();
+        acrossAndDownInExactOrder();
+        manyEvents();
         lowestTerms();
         theFrameAtItsBounds();
         notSoMany();
@@ -71,6 +74,39 @@ public final class Promise24EventTest {
         all("yard", Check.house("house xxxxx/xxxxx/xxxox/xxxxx/xxxxx"), new int[][] {{3, 2, 1, 0, 0}});
         all("two splits", Check.house("house xxxxxxx/xxxoxxx/xxxxxxx/xxxoxxx/xxxxxxx"),
                 new int[][] {{1, 2, 0, 1, 2}, {3, 2, 2, 0, 0}});
+    }
+
+    /** Worn off one way alone these would fall apart, but by the other way nothing is left at once. */
+    private static void bothWaysAtOnceIsOneEvent() {
+        int[][] end = {{1, 2, 1, 0, 0}};
+        all("two posts", Check.house("house xox/xxx/xox"), end);
+        all("two beams", Check.house("house xxx/oxo/xxx"), end);
+        all("twice as fast across", Check.house("house xxxooxxx/xxxxxxxx/xxxooxxx;speed 1,2,1,2"),
+                new int[][] {{1, 2, 0, 1, 2}, {3, 4, 2, 0, 0}});
+        all("twice as fast down", Check.house("house xxx/xxx/xxx/oxo/oxo/xxx/xxx/xxx;speed 2,1,2,1"),
+                new int[][] {{1, 2, 0, 1, 2}, {3, 4, 2, 0, 0}});
+        all("both at once, fast across", Check.house("house xxox/xxxx/xxox;speed 1,2,1,2"),
+                new int[][] {{1, 2, 1, 0, 0}});
+    }
+
+    private static void acrossAndDownInExactOrder() {
+        all("across ahead", Check.house("house x;speed 1,1,1,2"), new int[][] {{1, 3, 1, 0, 0}});
+        all("across ahead, long", Check.house("house xx;speed 1,1,1,2"), new int[][] {{1, 2, 1, 0, 0}});
+        all("down ahead", Check.house("house x;speed 1,1,2,1"), new int[][] {{1, 3, 1, 0, 0}});
+        all("down ahead, high", Check.house("house x/x;speed 1,1,2,1"), new int[][] {{1, 2, 1, 0, 0}});
+        // Across 14 by 17, down 9 by 11: 154 and 153 by 187.
+        all("a bit apart", Check.house("house xxxxxxxxxxxxxx" + "/xxxxxxxxxxxxxx".repeat(8) + ";speed 5,8,6,9"),
+                new int[][] {{9, 11, 1, 0, 0}});
+        all("a bit apart, higher", Check.house(Check.full(14, 10) + ";speed 5,8,6,9"),
+                new int[][] {{14, 17, 1, 0, 0}});
+    }
+
+    private static void manyEvents() {
+        EaveRoofs x = Check.house("house xxxxxxxxxoxxxx/oooooooooooooo/xxxxxxxxoxxxxx/oooooooooooooo/xxxxxxxoxxxxxx"
+                + "/oooooooooooooo/xxxoxxoxoooooo/oooooooooooooo/xxxxxxxxxxxxxx/xxxxxxxxxxxxxx;speed 1,9,1,9");
+        all("widths 1 to 9, 14", x, new int[][] {
+            {1, 18, 1, 0, 9}, {1, 9, 1, 0, 8}, {1, 6, 1, 0, 7}, {2, 9, 1, 0, 6}, {5, 18, 1, 0, 5},
+            {1, 3, 1, 0, 4}, {7, 18, 1, 0, 3}, {4, 9, 1, 0, 2}, {1, 2, 1, 0, 1}, {7, 9, 1, 0, 0}});
     }
 
     private static void lowestTerms() {

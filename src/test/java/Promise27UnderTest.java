@@ -4,6 +4,8 @@ public final class Promise27UnderTest {
         aRectangle();
         severalPiecesTogether();
         throughASplit();
+        piecesOfSeveralLengths();
+        armsThatWearOffEarlier();
         theLeast();
         theMost();
         behindAnAct();
@@ -41,6 +43,22 @@ public final class Promise27UnderTest {
      */
     private static void throughASplit() {
         fraction("two squares", Check.house("house xxo/xxx/oxx"), 5, 2);
+    }
+
+    /** As they end one by one: 2 by 27, 7 by 27, 1 by 2. */
+    private static void piecesOfSeveralLengths() {
+        fraction("1, 2, 3 across", Check.house("house xoxxoxxx;speed 1,3,1,3"), 5, 6);
+        fraction("1, 2, 3 down", Check.house("house x/o/x/x/o/x/x/x;speed 3,1,3,1"), 5, 6);
+        // Of 1 by 3, 2 by 3 cells that lose 2 and 3: 5 by 8, 2.
+        fraction("down ahead of across", Check.house("house xoxx/xoxx/xoxx;speed 1,1,2,1"), 21, 8);
+        fraction("across ahead of down", Check.house("house xxx/ooo/xxx/xxx;speed 1,1,1,2"), 21, 8);
+    }
+
+    /** 4 - 16t + 8tt up to 1/4, where the arms are gone; then 2 (1 - 2t) (1 - 2t) up to 1/2. */
+    private static void armsThatWearOffEarlier() {
+        fraction("down", Check.house("house xxx/oxo;speed 2,1,2,1"), 7, 12);
+        fraction("across", Check.house("house xo/xx/xo;speed 1,2,1,2"), 7, 12);
+        fraction("stairs", Check.house("house xxx/xxo/xoo"), 11, 6);
     }
 
     private static void theLeast() {
