@@ -11,6 +11,7 @@ public final class Promise14DropTest {
         onlyCellsThatHaveAWall();
         byTheNextSideIfNoneHasAWall();
         notToAWallFartherOff();
+        noWallInTheGreatestFrames();
         behindAnAct();
         noPoint();
         noHouse();
@@ -82,6 +83,16 @@ public final class Promise14DropTest {
         EaveRoofs z = Check.house("house xxxox/xxxxx/xxxxx/xxoox/xxxox/xxxxx");
         Check.taken("slopes east and south", z, z.slopes(10, 10), 6);
         Check.taken("farther north, south", z, z.drop(10, 10), z.wallOf(2, 2, 2));
+    }
+
+    /** The same in the widest and in the highest frame, where another wall lies at the row's other end. */
+    private static void noWallInTheGreatestFrames() {
+        EaveRoofs x = Check.house("house xxxxxxxxxxxxxo/xoxxxxxxxxxxxx/xoxxxxxxxxxxxx/xxxxxxxxxxxxxx");
+        Check.taken("slopes north and west", x, x.slopes(10, 10), 9);
+        Check.taken("14 wide", x, x.drop(10, 10), x.wallOf(2, 1, 3));
+        EaveRoofs y = Check.house("house xxxxx/xxxxx/xxxxx/xxoox/xxxxx/xxxxx/xxxxx/xxxxx/xxoxx/xxxxx");
+        Check.taken("slopes east and south", y, y.slopes(10, 10), 6);
+        Check.taken("10 high", y, y.drop(10, 10), y.wallOf(2, 2, 2));
     }
 
     private static void behindAnAct() {
