@@ -100,8 +100,11 @@ public final class Promise31TurnTest {
             Check.yes("turn(" + what + ")", !x.turn(what));
             Check.eq("turn(" + what + "), trouble()", x.trouble(), 1);
         }
+        turned("behind a refused one", x, 1);
+        Check.yes("turn(2)", !x.turn(2));
+        turned("behind another", x, 1);
         Check.rows("stays", x, 3, 6, 1);
-        Check.taken("ACTS", x, x.about(7), 0);
+        Check.taken("ACTS", x, x.about(7), 2);
     }
 
     private static void noHouse() {

@@ -5,6 +5,7 @@
 public final class Promise33UndoTest {
     public static void main(String[] args) {
         theLatestFirst();
+        whatWasMeasuredIsGone();
         tenAndNoMore();
         tenOfEachKind();
         noneToUndo();
@@ -34,6 +35,23 @@ public final class Promise33UndoTest {
         }
         Check.same("as it was", Told.measures(x), measures[0]);
         Check.refused("undo", x, x.undo(), 5);
+    }
+
+    /** What was asked of the house that an act made isn't told of the one that comes back. */
+    private static void whatWasMeasuredIsGone() {
+        for (int act = 0; act <= 5; act++) {
+            EaveRoofs x = Check.house("house xxo/oxo;speed 1,2,3,4;mark 5,5;mark 2,2");
+            String house = Told.house(x);
+            act(x, act);
+            String other = Told.measures(x);
+            Check.yes("act " + act + " changes what is measured", !other.equals(measuresOf(house)));
+            Check.taken("undo", x, x.undo(), 0);
+            Check.same("undone " + act, Told.measures(x), measuresOf(house));
+        }
+    }
+
+    private static String measuresOf(String house) {
+        return Told.measures(Check.house(house));
     }
 
     private static void act(EaveRoofs x, int act) {
